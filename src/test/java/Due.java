@@ -1,0 +1,33 @@
+/** Compares answers with those that are due, prints the wrong ones, and ends a test. */
+final class Due {
+    private long passed;
+    private long failed;
+
+    void is(String call, long got, long want) {
+        if (got == want) {
+            passed++;
+            return;
+        }
+        failed++;
+        if (failed <= 50) {
+            System.out.println(call + " answered " + got + ", due is " + want);
+        }
+    }
+
+    void isTrue(String what, boolean holds) {
+        is(what, holds ? 1 : 0, 1);
+    }
+
+    /** A fraction's two numbers. */
+    void isFraction(String call, long upper, long lower, long wantUpper, long wantLower) {
+        is(call + ", upper", upper, wantUpper);
+        is(call + ", lower", lower, wantLower);
+    }
+
+    void end() {
+        System.out.println(passed + " passed, " + failed + " failed");
+        if (failed > 0) {
+            System.exit(1);
+        }
+    }
+}
