@@ -34,7 +34,7 @@ public final class WireRow {
         track = new Track();
         pegs = new PegRow();
         sweep = new Sweep();
-        span = new Span(track, sweep);
+        span = new Span(track, pegs, sweep);
         wire = new Carrier();
         chooser = new Chooser(pegs, span);
         saw = new Saw();
@@ -90,7 +90,7 @@ public final class WireRow {
         if (number < pegs.count && pegs.place[number] == x) {
             return NO;
         }
-        pegs.insert(number, x, price);
+        pegs.insert(number, x, price, track.asideOf(x));
         return number;
     }
 
@@ -177,8 +177,9 @@ public final class WireRow {
     public int worst() {
         for (int i = 0; i < pegs.spans(); i++) {
             laySpan(i);
-            if (!span.keepsPlaces()) {
-                return span.firstNotKept();
+            int x = span.firstNotKept();
+            if (x != NONE) {
+                return x;
             }
         }
         return NONE;
@@ -189,7 +190,7 @@ public final class WireRow {
             return UNKNOWN;
         }
         laySpan(i);
-        return span.isInReach() && span.keepsPlaces() ? 1 : 0;
+        return span.isKept() ? 1 : 0;
     }
 
     public int ways(int from, int to, int s) {
@@ -344,7 +345,7 @@ public final class WireRow {
     private void laySpan(int i) {
         int from = pegs.mastPeg[i];
         int to = pegs.mastPeg[i + 1];
-        span.lay(pegs.place[from], pegs.side[from], pegs.place[to], pegs.side[to]);
+        span.lay(from, pegs.side[from], to, pegs.side[to]);
     }
 
     /** Lays the first span that the place lies in; false if it lies in none. */
@@ -428,15 +429,11 @@ public final class WireRow {
         long asideOf(int x) {
             long sum = 0;
             for (int i = 0; i < bends && from[i] < x; i++) {
-                long begun = square(x - from[i]);
-                long ended = x > to[i] ? square(x - to[i]) : 0;
-                sum += curve[i] * (begun - ended);
+                long begun = x - from[i];
+                long ended = x > to[i] ? x - to[i] : 0;
+                sum += curve[i] * (begun * begun - ended * ended);
             }
             return sum;
-        }
-
-        private static long square(long n) {
-            return n * n;
         }
     }
 
@@ -446,6 +443,8 @@ public final class WireRow {
         int masts;
         final int[] place = new int[MOST_PEGS];
         final int[] price = new int[MOST_PEGS];
+        /** ASIDE of each peg's place, which stays, because no bend comes or goes while there are pegs. */
+        final long[] trackAside = new long[MOST_PEGS];
         final int[] side = new int[MOST_PEGS];
         final boolean[] stands = new boolean[MOST_PEGS];
         /** The pegs with masts in order, so that span i goes from entry i to entry i + 1. */
@@ -464,16 +463,18 @@ public final class WireRow {
         }
 
         /** Only while no mast stands, so that sides and masts need not move along. */
-        void insert(int number, int x, int cost) {
+        void insert(int number, int x, int cost, long aside) {
             if (count >= MOST_PEGS || number < 0) {
                 return;
             }
             for (int i = count; i > number; i--) {
                 place[i] = place[i - 1];
                 price[i] = price[i - 1];
+                trackAside[i] = trackAside[i - 1];
             }
             place[number] = x;
             price[number] = cost;
+            trackAside[number] = aside;
             takeDown(count);
             count++;
         }
@@ -543,49 +544,49 @@ public final class WireRow {
     /** The contact wire between two masts; one object is laid again for each pair of them. */
     private static final class Span {
         private final Track track;
+        private final PegRow pegs;
         private final Sweep sweep;
         private int begin;
         private int end;
         private long wireAtBegin;
         private long wireAtEnd;
 
-        Span(Track track, Sweep sweep) {
+        Span(Track track, PegRow pegs, Sweep sweep) {
             this.track = track;
+            this.pegs = pegs;
             this.sweep = sweep;
         }
 
-        void lay(int x0, int side0, int x1, int side1) {
-            begin = x0;
-            end = x1;
-            wireAtBegin = track.asideOf(x0) + PARTS * side0;
-            wireAtEnd = track.asideOf(x1) + PARTS * side1;
+        /** From one peg to another, with sides that masts there have or could have. */
+        void lay(int from, int side0, int to, int side1) {
+            begin = pegs.place[from];
+            end = pegs.place[to];
+            wireAtBegin = pegs.trackAside[from] + PARTS * side0;
+            wireAtEnd = pegs.trackAside[to] + PARTS * side1;
         }
 
         int decimetres() {
             return end - begin;
         }
 
-        boolean isInReach() {
-            return decimetres() <= sweep.reach;
-        }
-
         /** OFF as a fraction whose lower number is the span's length. */
         long offUpper(int x) {
-            return wireAtBegin * (end - x) + wireAtEnd * (x - begin) - track.asideOf(x) * decimetres();
+            return wireAtBegin * (end - x) + wireAtEnd * (x - begin) - track.asideOf(x) * (end - begin);
         }
 
         /**
-         * How far the wire, blown to one side (sign 1 or -1), goes beyond the room there, times
-         * the length and the pull: so all stays whole and exact, far within a long.
+         * How far the wire, blown to the side that it is off to, goes beyond the room there, times
+         * the length and the pull: so all stays whole and exact, far within a long. On the other
+         * side of the track off is below 0.
          */
-        private long excess(int x, int sign) {
+        private long excess(int x, long off) {
             long blown = (long) sweep.wind * (x - begin) * (end - x);
             long room = (long) sweep.room * sweep.pull;
-            return sign * offUpper(x) * sweep.pull + (blown - room) * decimetres();
+            return off * sweep.pull + (blown - room) * (end - begin);
         }
 
         boolean keepsPlace(int x) {
-            return excess(x, 1) <= 0 && excess(x, -1) <= 0;
+            return excess(x, Math.abs(offUpper(x))) <= 0;
         }
 
         int firstNotKept() {
@@ -597,12 +598,15 @@ public final class WireRow {
             return NONE;
         }
 
-        /** Whether all places are kept, by stretches between which the curve changes. */
-        boolean keepsPlaces() {
+        /** Looks at the places by stretches, in each of which the track has one curve. */
+        boolean isKept() {
+            if (end - begin > sweep.reach) {
+                return false;
+            }
             int done = begin;
             for (int i = 0; i < track.bends && done < end; i++) {
-                int bendBegin = Math.min(track.from[i], end);
-                int bendEnd = Math.min(track.to[i], end);
+                int bendBegin = track.from[i] < end ? track.from[i] : end;
+                int bendEnd = track.to[i] < end ? track.to[i] : end;
                 if (bendBegin > done) {
                     if (!keepsStretch(done, bendBegin, 0)) {
                         return false;
@@ -625,21 +629,26 @@ public final class WireRow {
         }
 
         /**
-         * In a stretch of one curve the excess is a parabola, so that beside the two ends (looked
-         * at by the caller) its top alone can be too far out, if it opens downwards.
+         * In a stretch of one curve the excess to one side (sign 1 or -1) is a parabola, so that
+         * beside the stretch's two ends, which the caller looks at, its top alone can be too far
+         * out, if it opens downwards.
          */
         private boolean keepsTop(int from, int to, int curve, int sign) {
-            long fall = 2L * decimetres() * (sign * curve * sweep.pull + sweep.wind);
+            // With each step along the line the excess rises by so much less.
+            long fall = 2L * (end - begin) * (sign * curve * sweep.pull + sweep.wind);
             if (fall <= 0 || to - from < 2) {
                 return true;
             }
-            // Each step along the line the rise shrinks by the same fall.
-            long rise = excess(from + 1, sign) - excess(from, sign);
+            long rise = excess(from + 1, sign * offUpper(from + 1)) - excess(from, sign * offUpper(from));
             if (rise <= 0) {
                 return true;
             }
             long steps = (rise + fall - 1) / fall;
-            return steps >= to - from || excess(from + (int) steps, sign) <= 0;
+            if (steps >= to - from) {
+                return true;
+            }
+            int top = from + (int) steps;
+            return excess(top, sign * offUpper(top)) <= 0;
         }
     }
 
@@ -714,7 +723,8 @@ public final class WireRow {
             int n = 0;
             for (int k = 0; k < SIDES; k++) {
                 for (int m = 0; m < SIDES; m++) {
-                    if (canSpan(SIDES * from + k, SIDES * to + m)) {
+                    layBetween(SIDES * from + k, SIDES * to + m);
+                    if (span.isKept()) {
                         n++;
                     }
                 }
@@ -750,18 +760,19 @@ public final class WireRow {
                     continue;
                 }
                 int whole = pegs.price[peg] + cost[to];
-                if (whole <= cost[state] && canSpan(state, to)) {
+                if (whole > cost[state]) {
+                    continue;
+                }
+                layBetween(state, to);
+                if (span.isKept()) {
                     cost[state] = whole;
                     next[state] = to;
                 }
             }
         }
 
-        private boolean canSpan(int state, int to) {
-            int x0 = pegs.place[state / SIDES];
-            int x1 = pegs.place[to / SIDES];
-            span.lay(x0, sideOf(state), x1, sideOf(to));
-            return span.isInReach() && span.keepsPlaces();
+        private void layBetween(int state, int to) {
+            span.lay(state / SIDES, sideOf(state), to / SIDES, sideOf(to));
         }
 
         private int sideOf(int state) {

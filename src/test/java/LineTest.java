@@ -8,6 +8,7 @@ public final class LineTest {
 
     public static void main(String[] args) {
         newObject();
+        newObjectsBow();
         newObjectsAreApart();
         length();
         lengthTakesBendsAway();
@@ -58,6 +59,18 @@ public final class LineTest {
         x.mast(2, 400);
         due.is("beyond the REACH at first", x.spanKept(0), 0);
         due.is("but all places are kept", x.worst(), -6);
+    }
+
+    private static void newObjectsBow() {
+        WireRow x = new WireRow();
+        x.bend(0, 2, 1);
+        x.peg(0, 1);
+        x.peg(2, 1);
+        x.mast(0, 400);
+        x.mast(1, 400);
+        due.is("off(1), a little above the BOW at first", x.off(1, 0), 800001);
+        due.is("kept(0)", x.kept(0), 1);
+        due.is("kept(1)", x.kept(1), 0);
     }
 
     private static void newObjectsAreApart() {

@@ -18,7 +18,11 @@ public final class WindTest {
         keptAtTheEdge();
         keptToBothSides();
         keptOutside();
+        keptByALittle();
         worst();
+        worstAtTheLastMast();
+        worstOfAllPegs();
+        topJustKept();
         spanKeptReach();
         ways();
         waysRefused();
@@ -40,6 +44,7 @@ public final class WindTest {
         due.is("bow with all least", x.bow(0, 1000, 100, 0, 20), 1);
         due.is("bow with all most", x.bow(500, 20000, 1000, 99, 800), 1);
         due.is("bow with SWAY just below BOW", x.bow(0, 1000, 100, 99, 20), 1);
+        due.is("bow with SWAY below BOW, but 100", x.bow(0, 1000, 200, 100, 20), -2);
         for (int i = 0; i < 5; i++) {
             for (int wrong : new int[] {least[i] - 1, most[i] + 1, MIN, MAX}) {
                 int[] a = least.clone();
@@ -187,6 +192,65 @@ public final class WindTest {
         x.bow(0, 1000, 282, 0, 800);
         due.is("worst() with room enough", x.worst(), -6);
         due.is("spanKept(0) is beyond the reach", x.spanKept(0), 0);
+    }
+
+    /** With a wind of 149 place 1 alone is too far out, by 1 of 62 times 2319 parts. */
+    private static void keptByALittle() {
+        for (int sign : new int[] {1, -1}) {
+            WireRow x = new WireRow();
+            x.bend(3, 54, 21 * sign);
+            x.peg(0, 1);
+            x.peg(62, 1);
+            x.mast(0, 18 * sign);
+            x.mast(1, -18 * sign);
+            x.bow(149, 2319, 100, 82, 100);
+            due.is("kept(1) by a little not", x.kept(1), 0);
+            due.is("kept(2) by a little", x.kept(2), 1);
+            due.is("worst() by a little", x.worst(), 1);
+            due.is("spanKept(0) by a little not", x.spanKept(0), 0);
+            x.bow(148, 2319, 100, 82, 100);
+            due.is("kept(1) with less wind", x.kept(1), 1);
+            due.is("worst() with less wind", x.worst(), -6);
+            due.is("spanKept(0) with less wind", x.spanKept(0), 1);
+        }
+    }
+
+    private static void worstAtTheLastMast() {
+        WireRow x = withMasts(0, 0, 200, 101);
+        x.bow(0, 1000, 100, 0, 800);
+        due.is("kept(198)", x.kept(198), 1);
+        due.is("kept(199)", x.kept(199), 0);
+        x = withMasts(0, 0, 100, 101);
+        x.bow(0, 1000, 100, 0, 800);
+        due.is("kept(99)", x.kept(99), 1);
+        due.is("worst() is the last place", x.worst(), 100);
+        due.is("spanKept(0)", x.spanKept(0), 0);
+    }
+
+    private static void worstOfAllPegs() {
+        WireRow x = new WireRow();
+        for (int i = 0; i < 40; i++) x.peg(10 * i, 1);
+        for (int i = 0; i < 40; i++) x.mast(i, i == 39 ? -101 : 100);
+        x.bow(0, 1000, 101, 0, 20);
+        due.is("worst() of 39 spans", x.worst(), -6);
+        due.is("shortOne() of 39 spans", x.shortOne(), -6);
+        due.is("spanKept(38)", x.spanKept(38), 1);
+        due.is("spanKept(39)", x.spanKept(39), -1);
+        due.is("kept(391)", x.kept(391), -1);
+        x.bow(0, 1000, 100, 0, 20);
+        due.is("worst() at the last of 40 masts", x.worst(), 390);
+    }
+
+    private static void topJustKept() {
+        WireRow x = withMasts(0, 0, 400, 0);
+        // BLOWN by 500 x 200 x 200 by 1000 in the middle: 20000
+        x.bow(500, 1000, 100, 90, 800);
+        due.is("spanKept(0) with just enough room", x.spanKept(0), 1);
+        due.is("ways(0, 1, 0) with just enough room", x.ways(0, 1, 0), 9);
+        due.is("worst() with just enough room", x.worst(), -6);
+        x.bow(500, 1000, 100, 91, 800);
+        due.is("spanKept(0) with less room", x.spanKept(0), 0);
+        due.is("ways(0, 1, 0) with less room", x.ways(0, 1, 0), 0);
     }
 
     private static void spanKeptReach() {
