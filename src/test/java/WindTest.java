@@ -23,6 +23,7 @@ public final class WindTest {
         worstAtTheLastMast();
         worstOfAllPegs();
         topJustKept();
+        spanBehindAllBends();
         spanKeptReach();
         ways();
         waysRefused();
@@ -251,6 +252,32 @@ public final class WindTest {
         x.bow(500, 1000, 100, 91, 800);
         due.is("spanKept(0) with less room", x.spanKept(0), 0);
         due.is("ways(0, 1, 0) with less room", x.ways(0, 1, 0), 0);
+    }
+
+    private static void spanBehindAllBends() {
+        WireRow x = new WireRow();
+        for (int i = 0; i < 8; i++) x.bend(20 * i, 20 * i + 20, i % 2 == 0 ? 50 : -50);
+        x.peg(80, 1);
+        x.peg(160, 1);
+        x.peg(300, 1);
+        for (int p = 0; p < 3; p++) x.mast(p, 0);
+        // the wire meets the track at each bend's end; amid a bend it is off by 50 x 10 x 10
+        due.is("off(90)", x.off(90, 0), 5000);
+        due.is("off(100)", x.off(100, 0), 0);
+        due.is("off(110)", x.off(110, 0), -5000);
+        x.bow(0, 1000, 100, 98, 800);
+        due.is("spanKept(0) in four bends", x.spanKept(0), 0);
+        due.is("spanKept(1) behind eight bends", x.spanKept(1), 1);
+        x.bow(0, 1000, 100, 97, 800);
+        due.is("spanKept(0) in four bends with more room", x.spanKept(0), 1);
+        x.clear();
+        x.bow(0, 1000, 100, 98, 800);
+        x.peg(80, 1);
+        x.peg(160, 1);
+        x.mast(0, 0);
+        x.mast(1, 0);
+        due.is("spanKept(0) where bends were", x.spanKept(0), 1);
+        due.is("off(90) where bends were", x.off(90, 0), 0);
     }
 
     private static void spanKeptReach() {
