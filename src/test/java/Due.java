@@ -2,15 +2,25 @@
 final class Due {
     private long passed;
     private long failed;
+    private String sentence = "";
+
+    /** The document's sentence that the answers from here on are due by. */
+    void by(String promise) {
+        sentence = "[" + promise + "] ";
+    }
 
     void is(String call, long got, long want) {
         if (got == want) {
             passed++;
             return;
         }
+        fail(call + " answered " + got + ", due is " + want);
+    }
+
+    void fail(String text) {
         failed++;
         if (failed <= 50) {
-            System.out.println(call + " answered " + got + ", due is " + want);
+            System.out.println(sentence + text);
         }
     }
 

@@ -2,8 +2,10 @@ import java.util.Random;
 
 /** Long runs of calls by chance (always the same ones), held against PlainRow: all promises. */
 public final class OracleTest {
-    private static final int RUNS = 120;
-    private static final int CALLS = 400;
+    private static final int RUNS = 150;
+    /** So many calls are promised, and so many may come at once, with a choice or a new line. */
+    private static final int CALLS = 512;
+    private static final int AT_ONCE = 40;
 
     private final Due due;
     private final Random chance;
@@ -12,6 +14,7 @@ public final class OracleTest {
     private PlainRow plain = new PlainRow();
     /** So few that every choice can be tried. */
     private final int mostPegs;
+    private int calls;
 
     private OracleTest(Due due, int run) {
         this.due = due;
@@ -30,9 +33,11 @@ public final class OracleTest {
 
     private void go() {
         setUp();
-        for (int n = 0; n < CALLS; n++) {
+        // Some kinds of call are left out by chance, so that each turn need not make one.
+        for (int turn = 0; turn < 10 * CALLS && calls < CALLS - AT_ONCE; turn++) {
             call(chance.nextInt(30));
         }
+        due.isTrue("run " + run + ": not too many calls: " + calls, calls <= CALLS);
     }
 
     private int from(int least, int most) {
@@ -53,6 +58,7 @@ public final class OracleTest {
     }
 
     private void is(String call, long got, long want) {
+        calls++;
         due.is("run " + run + ": " + call, got, want);
     }
 
