@@ -165,8 +165,9 @@ public final class LongUseTest {
         WireRow x = Scenes.withSpans(39, 100);
         x.carrier(20000, 1, 1, 1, 500);
         long before = threads.getThreadAllocatedBytes(self);
-        for (int n = 82; n + 4 < CALLS; n += 5) {
-            x.bars(0, n % 14, 1000);
+        int mostBars = 0;
+        for (int n = 82; n < 282; n++) mostBars = Math.max(mostBars, x.bars(0, (n - 82) % 14, 1000));
+        for (int n = 282; n + 3 < CALLS; n += 4) {
             x.worst();
             x.choose(n % 401);
             x.ways(0, 8, 50);
@@ -175,5 +176,6 @@ public final class LongUseTest {
         long made = threads.getThreadAllocatedBytes(self) - before;
         due.by("the room of a run");
         due.isTrue("the dearest calls make little: " + made + " bytes", made <= MOST_BYTES);
+        due.is("14 droppers were among them", mostBars, 7);
     }
 }
