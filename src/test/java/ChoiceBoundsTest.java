@@ -191,6 +191,8 @@ public final class ChoiceBoundsTest {
         masts("-s before 0", x, -1, -1);
         due.is("choose(2), too far out", x.choose(2), 2);
         masts("0, where -s can't be", x, 0, 0);
+        due.is("choose(1) again", x.choose(1), 2);
+        masts("-s before 0, though 0 was chosen", x, -1, -1);
         WireRow y = new WireRow();
         y.bend(0, 100, -50);
         y.peg(0, 1);
@@ -250,6 +252,11 @@ public final class ChoiceBoundsTest {
         x.bow(0, 1000, 400, 0, 99);
         due.is("choose(400), none", x.choose(400), NO);
         due.is("told(2)", x.told(2), 21);
+        x.clear();
+        for (int i = 0; i < 3; i++) x.peg(99 * i, 1);
+        due.is("choose(400) of three where forty were", x.choose(400), 3);
+        masts("three", x, -400, -400, -400);
+        due.is("told(2) of three", x.told(2), 3);
     }
 
     private static void priceOfNoneAndAll() {
