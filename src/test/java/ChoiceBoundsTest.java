@@ -195,12 +195,11 @@ public final class ChoiceBoundsTest {
         masts("-s before 0, though 0 was chosen", x, -1, -1);
         WireRow y = new WireRow();
         y.bend(0, 100, -50);
-        y.peg(0, 1);
-        y.peg(100, 1);
+        for (int place : new int[] {0, 50, 100}) y.peg(place, 1);
         // off by -125000 amid, of 118000
         y.bow(0, 1000, 100, 41, 800);
         due.is("choose(4)", y.choose(4), 2);
-        masts("s, where the others can't be", y, 4, 4);
+        masts("s, where the others can't be", y, 4, BARE, 4);
     }
 
     private static void choosePegBeforeSide() {
